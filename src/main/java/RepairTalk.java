@@ -115,7 +115,7 @@ public final class RepairTalk {
             case 0: return members.isUp(node) ? 1 : 0;
             case 1: return members.has[node];
             case 2: return members.heard[node];
-            case 3: return bitsBelow(members.heard[node] + 1) & ~members.has[node];
+            case 3: return members.missing(node);
             case 4: return members.c1[node];
             case 5: return members.c2[node];
             case 6: return members.ave[node];
@@ -863,6 +863,11 @@ public final class RepairTalk {
             return isIn(has[node], packet);
         }
 
+        /** The packets that it heard of and has not. */
+        int missing(int node) {
+            return bitsBelow(heard[node] + 1) & ~has[node];
+        }
+
         int holdersOf(int packet) {
             int bits = 0;
             for (int node = 0; node < size; node++) {
@@ -1269,7 +1274,9 @@ public final class RepairTalk {
             int left = 0;
             for (int k = 0; k < size; k++) {
                 if (due[k] > tick) {
-                    move(k, left);
+                    if (left < k) {
+                        move(k, left);
+                    }
                     left++;
                 }
             }
@@ -1521,9 +1528,10 @@ public final class RepairTalk {
 
         private void hearOf(int node, int heard) {
             members.heard[node] = Math.max(members.heard[node], heard);
-            for (int packet = 0; packet <= members.heard[node]; packet++) {
+            int missing = members.missing(node);
+            for (int packet = 0; packet < MOST_PACKETS && missing >> packet != 0; packet++) {
                 int cell = cell(node, packet);
-                if (!members.hasPacket(node, packet) && packets.ask[cell] == NONE) {
+                if (isIn(missing, packet) && packets.ask[cell] == NONE) {
                     packets.beginAsk(cell);
                     setAsk(node, cell);
                 }
@@ -1547,14 +1555,17 @@ public final class RepairTalk {
         }
 
         private void act(int node) {
+            int[] ask = packets.ask;
+            int[] answer = packets.answer;
+            int cell = cell(node, 0);
             // Nothing is asked or answered above what was heard of.
             for (int packet = 0; packet <= members.heard[node]; packet++) {
-                int cell = cell(node, packet);
-                if (packets.ask[cell] != NONE && packets.ask[cell] <= tick) {
+                if (ask[cell] != NONE && ask[cell] <= tick) {
                     request(node, packet);
-                } else if (packets.answer[cell] != NONE && packets.answer[cell] <= tick) {
+                } else if (answer[cell] != NONE && answer[cell] <= tick) {
                     repair(node, packet);
                 }
+                cell++;
             }
             if (told.period > 0 && (tick + node) % told.period == 0) {
                 flood(node, REPORT, NONE, MOST_SCOPE);

@@ -52,6 +52,10 @@ public final class TapeTest {
     private static void wrongWords() {
         wrong("", "nodes", 0);
         wrong("", " nodedown", 1);
+        wrong("", "nodez", 0);
+        wrong("", "nodea", 0);
+        wrong("", "node{", 4);
+        wrong("", "node`", 4);
         wrong("", "Node", 0);
         wrong("", "noDe", 0);
         wrong("", "\tnode", 0);
@@ -102,6 +106,8 @@ public final class TapeTest {
         wrong("", "session 21", 8);
         wrong("", "rate 21", 5);
         wrong("", "rate 99999999999999999999", 5);
+        wrong("", "rate 1/", 6);
+        wrong("", "rate 1:", 6);
     }
 
     private static void tooMany() {
