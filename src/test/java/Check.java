@@ -6,6 +6,9 @@ final class Check {
 
     private static int checks = 0;
     private static int wrong = 0;
+    /** The sentence that is tested, ahead of each complaint; empty outside of an edge. */
+    private static String about = "";
+    private static final int[] edges = new int[43];
 
     private Check() {
     }
@@ -14,7 +17,7 @@ final class Check {
         checks++;
         if (got != want) {
             wrong++;
-            System.out.println(what + " answered " + got + ", due is " + want);
+            System.out.println(about + what + " answered " + got + ", due is " + want);
         }
     }
 
@@ -35,13 +38,36 @@ final class Check {
         try {
             long got = call.answer();
             wrong++;
-            System.out.println(what + " answered " + got + ", due is " + want.getSimpleName());
+            System.out.println(about + what + " answered " + got + ", due is " + want.getSimpleName());
         } catch (RuntimeException e) {
             if (e.getClass() != want) {
                 wrong++;
-                System.out.println(what + " threw " + e + ", due is " + want.getSimpleName());
+                System.out.println(about + what + " threw " + e + ", due is " + want.getSimpleName());
             }
         }
+    }
+
+    /** The test of a sentence that names a boundary, under the number of its promise. */
+    static void edge(int promise, String sentence, Runnable test) {
+        about = "promise " + promise + ", \"" + sentence + "\": ";
+        due("standing in the document", Document.says(promise, sentence), true);
+        try {
+            test.run();
+        } catch (RuntimeException e) {
+            wrong++;
+            System.out.println(about + "ended by " + e + " at " + e.getStackTrace()[0]);
+        }
+        about = "";
+        edges[promise]++;
+    }
+
+    static void dueEdges() {
+        int all = 0;
+        for (int promise = 1; promise < edges.length; promise++) {
+            due("promise " + promise + " has an edge", edges[promise] > 0, true);
+            all += edges[promise];
+        }
+        System.out.println(all + " edges");
     }
 
     static void dueIndex(String what, Call call) {
@@ -77,6 +103,14 @@ final class Check {
             talk.feed(n[i], n[i + 1], n[i + 2], n[i + 3], n[i + 4]);
         }
         due("end of " + text, talk.end(text.length()), true);
+    }
+
+    /** The text is wrong at that byte, and is off the tape. */
+    static void dueWrong(RepairTalk talk, String text, int fault) {
+        tape(talk, text);
+        dueArgument("group of '" + text + "'", talk::group);
+        due("fault of '" + text + "'", talk.fault(), fault);
+        due("the tape behind '" + text + "'", talk.end(1), false);
     }
 
     static int tell(RepairTalk talk, String text) {
