@@ -2,8 +2,8 @@
 public final class AheadTest {
     /** Node 1 (and 2) missed packet 0; packet 1 comes by TICK 4. */
     private static RepairTalk missing(String request, String repair) {
-        RepairTalk talk = Check.group("node;node down;node down;link 0 1 delay 1 loss 0;link 0 2 delay 1 loss 0;request "
-            + request + ";repair " + repair);
+        RepairTalk talk = Check.group("node;node down;node down;link 0 1 delay 1 loss 0;link 0 2 delay 1 loss 0;"
+            + "request " + request + ";repair " + repair);
         talk.send();
         talk.ticks(3);
         talk.wake(1, true);

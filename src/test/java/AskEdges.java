@@ -101,7 +101,8 @@ final class AskEdges {
     }
 
     private static void ofTheGroup() {
-        Check.edge(26, "LINKS, not CUT, without which two NODES would have no WAY that have one, as bits", AskEdges::parts);
+        Check.edge(26, "LINKS, not CUT, without which two NODES would have no WAY that have one, as bits",
+            AskEdges::parts);
         Check.edge(31, "NONE without NODES", AskEdges::centerOfNone);
         Check.edge(31, "of those with a WAY to the most NODES; of several the least; none", AskEdges::centers);
         Check.edge(34, "the fewest LINKS, not CUT", AskEdges::fewestGuards);
@@ -371,6 +372,14 @@ final class AskEdges {
         talk.wake(1, false);
         Check.due("none is up", talk.first(0), -1);
         Check.due("of another packet", talk.first(1), -1);
+        // The source asks, too: it misses packet 0, that was taken from it, by a report of node 1.
+        RepairTalk source = Check.group(TWO + ";session 3");
+        source.send();
+        source.ticks(2);
+        source.give(0, 0, false);
+        source.ticks(2);
+        Check.due("ASK of the source", source.timer(0, 0, 0) > 0, true);
+        Check.due("the source", source.first(0), 0);
     }
 
     private static void blindBits() {
@@ -507,6 +516,11 @@ final class AskEdges {
         Check.due("now", talk.whole(false), 0);
         talk.give(1, 0, false);
         Check.due("never, as nobody tells it of that", talk.whole(false), -1);
+        talk.give(1, 0, true);
+        talk.give(0, 0, false);
+        Check.due("nor does anybody tell the source", talk.whole(false), -1);
+        talk.give(0, 0, true);
+        talk.give(1, 0, false);
         talk.wake(1, false);
         Check.due("all that are up", talk.whole(false), 0);
         talk.wake(0, false);
@@ -571,7 +585,7 @@ final class AskEdges {
         Check.due("late answered at 13", talk.talk(11, true, true), 1);
     }
 
-    /** TICK is 3, packet 1 is there in that one, and 1 asks for packet 0, itself the source (so that C1 counts a quarter). */
+    /** TICK is 3: packet 1 is there in that one, and 1 asks for packet 0, being the source (C1 counts a quarter). */
     private static RepairTalk asksSoon(String request) {
         RepairTalk talk = Check.group("node;node down;link 0 1 delay 1 loss 0;request " + request + ";repair 32 0");
         talk.send();
@@ -644,6 +658,15 @@ final class AskEdges {
         Check.dueAll("of 0", givers(talk, 0, 0), -1, 1, -1, -1, -1, -1, -1, -1);
         Check.dueAll("of 1", givers(talk, 1, 0), -1, 0, -1, -1, -1, -1, -1, -1);
         Check.dueAll("of 2", givers(talk, 2, 0), -1, 0, 1, -1, -1, -1, -1, -1);
+        // 2 has it from 1, that has it from 0, that has it from itself: it comes once.
+        RepairTalk chain = Check.group("node;node;node down;link 0 1 delay 2 loss 0;link 1 2 delay 1 loss 0;"
+            + "request 4 0;repair 2 0");
+        chain.send();
+        chain.ticks(4);
+        chain.wake(2, true);
+        chain.send();
+        chain.ticks(20);
+        Check.dueAll("of 2", givers(chain, 2, 0), -1, 1, 0, -1, -1, -1, -1, -1);
     }
 
     private static void giverItself() {
@@ -688,7 +711,12 @@ final class AskEdges {
     private static void parts() {
         Check.due("without NODES", new RepairTalk().parts(), 0);
         Check.due("without LINKS", Check.group("node;node").parts(), 0);
-        Check.due("of a line", Check.group(LINE).parts(), 31);
+        RepairTalk line = Check.group(LINE);
+        Check.due("of a line", line.parts(), 31);
+        line.cut(2, true);
+        Check.due("a CUT LINK is none", line.parts(), 27);
+        line.cut(2, false);
+        Check.due("of a line again", line.parts(), 31);
         RepairTalk talk = Check.group(SQUARE);
         Check.due("of a ring", talk.parts(), 0);
         talk.wake(1, false);
@@ -718,6 +746,8 @@ final class AskEdges {
         Check.due("of the most", talk.center(), 3);
         talk.cut(2, true);
         Check.due("of like ones the nearest", talk.center(), 0);
+        RepairTalk two = Check.group("node;node;node;node;link 0 1 delay 3 loss 0;link 2 3 delay 2 loss 0");
+        Check.due("of two pairs the nearer one", two.center(), 2);
     }
 
     private static void fewestGuards() {

@@ -61,7 +61,8 @@ public final class FaceTest {
         String text = Files.readString(Path.of("src/main/java/RepairTalk.java"));
         String code = text.replaceAll("(?s)/\\*.*?\\*/", "").replaceAll("//.*", "");
         for (String word : NOT_IN_THE_PROGRAM) {
-            String pattern = Character.isLetter(word.charAt(0)) ? "(?s).*\\b\\Q" + word + "\\E.*" : "(?s).*\\Q" + word + "\\E.*";
+            String begin = Character.isLetter(word.charAt(0)) ? "(?s).*\\b" : "(?s).*";
+            String pattern = begin + "\\Q" + word + "\\E.*";
             Check.due("'" + word + "' in the program", code.matches(pattern), false);
         }
     }

@@ -8,6 +8,7 @@ final class KeepEdges {
 
     static void all() {
         Check.edge(12, "An object is used for at most 512 calls", KeepEdges::used512Times);
+        Check.edge(42, "NODES (at most 6, numbered from 0 on)", KeepEdges::fullGroup);
         Check.edge(38, "the latest 60 of", KeepEdges::mostRows);
         Check.edge(38, "THE LOG so many ago (0 the latest)", KeepEdges::rowsByAge);
         Check.edge(38, "NONE without", KeepEdges::noRow);
@@ -21,9 +22,11 @@ final class KeepEdges {
         Check.edge(40, "THE IMAGE is kept.", KeepEdges::imageOfNothing);
         Check.edge(41, "false, and nothing happens, if none was kept", KeepEdges::backWithout);
         Check.edge(41, "One goes back to THE IMAGE: true", KeepEdges::backToAll);
+        Check.edge(41, "THE IMAGE (one) of all may be kept, and gone back to", KeepEdges::backToACrowd);
         Check.edge(41, "(but for the TAPE, fault() and THE IMAGE itself)", KeepEdges::backKeeps);
         Check.edge(42, "NONE for another what.", KeepEdges::noSuchCount);
-        Check.edge(42, "12 MESSAGES on their way, 13 CROWD, 14 TICK, 15 rows of THE LOG, 16 ALONE", KeepEdges::lastCounts);
+        Check.edge(42, "12 MESSAGES on their way, 13 CROWD, 14 TICK, 15 rows of THE LOG, 16 ALONE",
+            KeepEdges::lastCounts);
         Check.edge(42, "8 C1, 9 C2, 10 D1, 11 D2 (as told)", KeepEdges::asTold);
     }
 
@@ -44,6 +47,31 @@ final class KeepEdges {
         Check.due("TICK", talk.count(14), 503 * 60);
         Check.due("LOAD", talk.link(0, 5), 9999);
         Check.due("whole", talk.whole(true), 0);
+    }
+
+    /** All that there can be at most, and all that can be asked of it: nothing of the machine is thrown. */
+    private static void fullGroup() {
+        RepairTalk talk = Check.group("node;node;node;node;node;node;rate 1;request 32 0");
+        Check.tell(talk, "link 0 1 delay 9 loss 0;link 0 2 delay 9 loss 0;link 0 3 delay 9 loss 0;"
+            + "link 0 4 delay 9 loss 0;link 1 2 delay 9 loss 0;link 1 3 delay 9 loss 0;link 1 4 delay 9 loss 0;"
+            + "link 2 3 delay 9 loss 0;link 2 4 delay 9 loss 0;link 4 5 delay 9 loss 0");
+        talk.ticks(60);
+        talk.give(5, 0, false);
+        talk.give(5, 11, false);
+        Check.tell(talk, "session 1");
+        talk.ticks(3);
+        Check.dueAll("NODES, LINKS, PACKETS, MESSAGES, rows", new long[] {talk.count(0), talk.count(1), talk.count(4),
+            talk.count(12), talk.count(15)}, 6, 10, 12, 64, 60);
+        Check.tell(talk, "session 0");
+        Twins.dueAlike("asked twice", talk, talk);
+        // A report of TICK 60 is at 5 by 69.
+        talk.ticks(7);
+        Check.due("FIRST", talk.first(11), 5);
+        Check.due("ASK of the last PACKET of the last NODE", talk.timer(5, 11, 0), 69 + 32);
+        Check.due("whole, early", talk.whole(false) > 0, true);
+        Check.due("talk, late", talk.talk(120, true, false), 2);
+        Check.due("best", talk.best(20, true), 0);
+        Twins.dueAlike("asked twice", talk, talk);
     }
 
     // Promise 38
@@ -235,6 +263,25 @@ final class KeepEdges {
         talk.give(0, 0, false);
         Check.due("back again", talk.back(), true);
         Twins.dueAlike("back again", talk, Twins.busy());
+    }
+
+    /** CROWD of 26 at the image is 56 a TICK on, and 0 in the one ahead of it. */
+    private static void backToACrowd() {
+        RepairTalk talk = Check.group("node;node;node;node;node;node;link 0 1 delay 9 loss 0;link 1 2 delay 9 loss 0;"
+            + "link 2 3 delay 9 loss 0;link 3 4 delay 9 loss 0;link 4 5 delay 9 loss 0;session 1");
+        talk.ticks(2);
+        talk.image();
+        talk.ticks(1);
+        Check.due("CROWD", talk.count(13), 26);
+        talk.back();
+        Check.due("CROWD ahead", talk.count(13), 0);
+        talk.ticks(1);
+        talk.image();
+        talk.ticks(1);
+        Check.due("CROWD a TICK on", talk.count(13), 56);
+        talk.back();
+        Check.due("CROWD back", talk.count(13), 26);
+        Check.due("messages", talk.count(12), 64);
     }
 
     private static void backKeeps() {

@@ -39,6 +39,8 @@ final class LinkEdges {
         Check.edge(11, "HOPS are scope at most", LinkEdges::scopes);
         Check.edge(11, "with SCOPE and ASKED, together (5 at most)", LinkEdges::mostScope);
         Check.edge(11, "the FLOOD of a repair with its scope", LinkEdges::scopeOfARepair);
+        Check.edge(11, "with the scope of the request", LinkEdges::scopeOnItsWay);
+        Check.edge(41, "One goes back to THE IMAGE: true", LinkEdges::scopeInTheImage);
         Check.edge(11, "by WAYS, of like ones by numbers", LinkEdges::messagesAsSent);
         Check.edge(11, "4 the PACKET (NONE of a report), 5 HEARD in it (NONE)", LinkEdges::reportOfNothing);
         Check.edge(11, "with HEARD of the sender, as it is then", LinkEdges::heardAsItWas);
@@ -160,7 +162,8 @@ final class LinkEdges {
         Check.dueAll("LOAD by data", new long[] {scoped.link(0, 5), scoped.link(1, 5), scoped.link(2, 5)}, 2, 2, 2);
         scoped.seed(1);
         scoped.ticks(1);
-        Check.dueAll("LOAD by a request", new long[] {scoped.link(0, 5), scoped.link(1, 5), scoped.link(2, 5)}, 2, 2, 3);
+        Check.dueAll("LOAD by a request", new long[] {scoped.link(0, 5), scoped.link(1, 5), scoped.link(2, 5)},
+            2, 2, 3);
         Check.due("SEED by an ASK and one LINK", scoped.seed(1), -1770082073);
     }
 
@@ -209,6 +212,11 @@ final class LinkEdges {
         for (int link = 0; link < 5; link++) {
             Check.due("LOAD of " + link, talk.link(link, 5), 18);
         }
+        Check.tell(talk, "session 0");
+        talk.ticks(43);
+        Check.due("the last, of TICK 1 by 45 each", talk.count(12), 2);
+        talk.ticks(1);
+        Check.due("none", talk.count(12), 0);
     }
 
     private static void the64thMessage() {
@@ -282,6 +290,51 @@ final class LinkEdges {
         Check.due("messages", talk.count(12), 2);
         Check.dueAll("the one", message(talk, 0), 15, 1, 2, 2, 0, 1);
         Check.dueAll("the other", message(talk, 1), 15, 3, 2, 2, 0, 1);
+    }
+
+    /** Node 3's request (1 HOP far) is 5 on its way; data, which goes 5 far, is sent and there ahead of it. */
+    private static void scopeOnItsWay() {
+        RepairTalk talk = Check.group(SLOW_END);
+        toRequestOnItsWay(talk);
+        talk.ticks(7);
+        dueRepairs(talk);
+    }
+
+    private static final String SLOW_END = "node;node;node;node down;link 0 1 delay 1 loss 0;link 1 2 delay 1 loss 0;"
+        + "link 2 3 delay 5 loss 0;request 4 0;repair 2 0;scope 1";
+
+    /** TICK is 20: node 3 heard of packet 0 at 15, and asked at 19. */
+    private static void toRequestOnItsWay(RepairTalk talk) {
+        talk.send();
+        talk.ticks(8);
+        talk.wake(3, true);
+        talk.send();
+        talk.ticks(11);
+        talk.send();
+        talk.ticks(1);
+        Check.dueAll("the request", message(talk, 3), 24, 2, 3, 1, 0, 1);
+    }
+
+    /** TICK is 27: node 2 answered at 26, 1 HOP far. */
+    private static void dueRepairs(RepairTalk talk) {
+        Check.due("REPAIRS", talk.node(2, 8), 1);
+        Check.due("messages", talk.count(12), 2);
+        Check.dueAll("the one", message(talk, 0), 27, 1, 2, 2, 0, 2);
+        Check.dueAll("the other", message(talk, 1), 31, 3, 2, 2, 0, 2);
+    }
+
+    /** The image has the request with its scope, whatever is on its way behind that. */
+    private static void scopeInTheImage() {
+        RepairTalk talk = Check.group(SLOW_END);
+        toRequestOnItsWay(talk);
+        talk.ticks(2);
+        talk.image();
+        talk.ticks(9);
+        talk.send();
+        talk.back();
+        Check.dueAll("the request", message(talk, 1), 24, 2, 3, 1, 0, 1);
+        talk.ticks(5);
+        dueRepairs(talk);
     }
 
     private static void messagesAsSent() {

@@ -34,7 +34,8 @@ final class MemberEdges {
         Check.edge(6, "if it is below 20, C1 and C2 are 1 less", MemberEdges::aveBelow20);
         Check.edge(6, "1 less (1, 2 at least)", MemberEdges::leastFactors);
         Check.edge(6, "if it had it, and it is a repair: DUPLICATES 1 more", MemberEdges::duplicates);
-        Check.edge(6, "An ANSWER of it is none then, SUPPRESSED 1 more, if there was one", MemberEdges::suppressedByPacket);
+        Check.edge(6, "An ANSWER of it is none then, SUPPRESSED 1 more, if there was one",
+            MemberEdges::suppressedByPacket);
         Check.edge(6, "One that is DOWN hears nothing", MemberEdges::downHearsNothing);
         Check.edge(6, "IndexOutOfBoundsException: there is no such NODE", MemberEdges::noSuchNode);
         Check.edge(6, "NoSuchElementException: another what.", MemberEdges::noSuchThingOfANode);
@@ -43,7 +44,8 @@ final class MemberEdges {
     private static void ofEst() {
         Check.edge(7, "EST of each other NODE (4 at first)", MemberEdges::estAtFirst);
         Check.edge(7, "SENT and CAME of the latest report (none at first)", MemberEdges::noEchoAtFirst);
-        Check.edge(7, "if the sender has a report of it, that one's SENT, and how long ago it CAME", MemberEdges::latestEcho);
+        Check.edge(7, "if the sender has a report of it, that one's SENT, and how long ago it CAME",
+            MemberEdges::latestEcho);
         Check.edge(7, "(TICK less that SENT less how long ago) by 2, 1 at least", MemberEdges::leastEst);
         Check.edge(7, "(All quotients are rounded down.)", MemberEdges::estIsRoundedDown);
         Check.edge(7, "One that is DOWN hears nothing", MemberEdges::downHearsNoReport);
@@ -63,6 +65,7 @@ final class MemberEdges {
         Check.edge(8, "TICK and, 1 at least,", MemberEdges::leastTime);
         Check.edge(8, "(All quotients are rounded down.)", MemberEdges::timesAreRoundedDown);
         Check.edge(8, "DRAW modulo (the second one times how far by 4, and 1)", MemberEdges::drawnTime);
+        Check.edge(8, "ANSWER is TIME by D1, D2 and EST of the sender", MemberEdges::drawnAnswer);
         Check.edge(8, "(The DRAW always.)", MemberEdges::drawAlways);
         Check.edge(8, "times 2 to the BACK (0 of an ANSWER)", MemberEdges::noBackOfAnAnswer);
         Check.edge(8, "an ASK of TICK at most: BACK is 1 more (5 at most)", MemberEdges::mostBack);
@@ -104,8 +107,8 @@ final class MemberEdges {
     }
 
     /**
-     * TICK is 4: node 1 was down as packet 0 came, heard of it by packet 1 at TICK 3, and asks (C2 being 0) at 3 and C1,
-     * or at 4 by a C1 of 0.
+     * TICK is 4: node 1 was down as packet 0 came, heard of it by packet 1 at TICK 3, and asks (C2 being 0) at 3 and
+     * C1, or at 4 by a C1 of 0.
      */
     static RepairTalk missed(String request, String repair) {
         RepairTalk talk = Check.group(TWO_DOWN + ";request " + request + ";repair " + repair);
@@ -118,8 +121,8 @@ final class MemberEdges {
     }
 
     /**
-     * Node 1 got packet 0 by so many REQS, with an AVE of 16 ahead of it, and C1, C2 told just ahead of it, too. By a C1
-     * of 2 it asks at 5 and at 9; by 0 from 4 on at each TICK, and each answer comes 2 and D1 behind the first asking.
+     * Node 1 got packet 0 by so many REQS, with an AVE of 16 ahead of it, and C1, C2 told just ahead of it, too. By a
+     * C1 of 2 it asks at 5 and at 9, by 0 from 4 on at each TICK; each answer comes 2 and D1 behind the first asking.
      */
     private static RepairTalk gotAfter(int reqs, String request) {
         RepairTalk talk;
@@ -137,7 +140,8 @@ final class MemberEdges {
     }
 
     private static void dueAdapted(String what, RepairTalk talk, int ave, int c1, int c2) {
-        Check.dueAll(what + ": AVE, C1, C2", new long[] {talk.node(1, 6), talk.node(1, 4), talk.node(1, 5)}, ave, c1, c2);
+        Check.dueAll(what + ": AVE, C1, C2", new long[] {talk.node(1, 6), talk.node(1, 4), talk.node(1, 5)},
+            ave, c1, c2);
     }
 
     /** Packet 0 is behind packet 1: at TICK 2 node 1 asks for it (later), at 9 it is there without a request. */
@@ -397,8 +401,8 @@ final class MemberEdges {
         talk.wake(1, false);
         Check.due("got", talk.ticks(1), 0);
         Check.due("it is gone", talk.count(12), 0);
-        Check.dueAll("as it was", new long[] {talk.node(1, 1), talk.node(1, 2), talk.timer(1, 0, 0), talk.timer(1, 0, 7),
-            talk.gap(1, 0, 0)}, 2, 1, 15, 0, 4);
+        Check.dueAll("as it was", new long[] {talk.node(1, 1), talk.node(1, 2), talk.timer(1, 0, 0),
+            talk.timer(1, 0, 7), talk.gap(1, 0, 0)}, 2, 1, 15, 0, 4);
         // A request, too.
         RepairTalk asked = missed("4 0", "1 0");
         asked.ticks(4);
@@ -439,7 +443,7 @@ final class MemberEdges {
         Check.due("est(5, 4)", talk.est(5, 4), 4);
     }
 
-    /** With a PERIOD of 20 node 0 reports at 0, 20 and 40, node 1 at 19; a report tells only of what was there by then. */
+    /** With a PERIOD of 20 node 0 reports at 0, 20 and 40, node 1 at 19; a report tells of what was there by then. */
     private static void noEchoAtFirst() {
         RepairTalk talk = Check.group("node;node;link 0 1 delay 9 loss 0;session 20");
         talk.ticks(28);
@@ -667,6 +671,31 @@ final class MemberEdges {
         }
     }
 
+    /** The same of an ANSWER: heard at 8 by EST of 4, and at 16 by EST of 1 (2 and 16838 modulo 3). */
+    private static void drawnAnswer() {
+        int[][] cases = {{0, 0}, {8, 16838 % 9}, {32, 16838 % 33}};
+        for (int[] one : cases) {
+            RepairTalk talk = missed("4 0", "3 " + one[0]);
+            talk.ticks(4);
+            talk.seed(1);
+            talk.ticks(1);
+            Check.due("by a D2 of " + one[0], talk.timer(0, 0, 5), 8 + 3 + one[1]);
+        }
+        RepairTalk near = Check.group(TWO + ";session 2");
+        near.ticks(11);
+        Check.due("EST", near.est(0, 1), 1);
+        Check.tell(near, "session 0;request 4 0;repair 8 8");
+        near.wake(1, false);
+        near.send();
+        near.ticks(2);
+        near.wake(1, true);
+        near.send();
+        near.ticks(3);
+        near.seed(1);
+        near.ticks(1);
+        Check.due("by EST of 1", near.timer(0, 0, 5), 16 + 2 + 16838 % 3);
+    }
+
     /** SEED 1 goes on to these: an ASK draws once, asking once and once for the LINK, an ANSWER once. */
     private static void drawAlways() {
         RepairTalk talk = Check.group(TWO_DOWN + ";request 0 0;repair 0 0");
@@ -714,7 +743,8 @@ final class MemberEdges {
     private static void mostBack() {
         RepairTalk talk = missed("1 0", "1 0");
         talk.wake(0, false);
-        int[][] asks = {{4, 1, 6, 5}, {6, 2, 10, 8}, {10, 3, 18, 14}, {18, 4, 34, 26}, {34, 5, 66, 50}, {66, 5, 98, 82}};
+        int[][] asks = {{4, 1, 6, 5}, {6, 2, 10, 8}, {10, 3, 18, 14}, {18, 4, 34, 26}, {34, 5, 66, 50},
+            {66, 5, 98, 82}};
         for (int[] one : asks) {
             talk.ticks(one[0] + 1 - talk.count(14));
             Check.dueAll("asked at " + one[0], new long[] {talk.timer(1, 0, 1), talk.timer(1, 0, 0),
@@ -817,7 +847,7 @@ final class MemberEdges {
         Check.due("by others", talk.timer(0, 0, 5), 37);
     }
 
-    /** The repair of TICK 8 is lost, and node 1 asks on and on: from TICK 20 on (8 and 3 times 4) it is answered again. */
+    /** The repair of TICK 8 is lost, and node 1 asks on and on: from 20 on (8 and 3 times 4) it is answered again. */
     private static void holdEnds() {
         RepairTalk talk = missed("0 0", "3 0");
         talk.ticks(4);
@@ -884,6 +914,10 @@ final class MemberEdges {
         RepairTalk alone = Check.group("node;node");
         alone.send();
         Check.due("of one without any link", alone.gap(1, 0, 0), 2);
+        RepairTalk last = Check.group("node;node;source 1");
+        last.send();
+        Check.due("of node 0", last.gap(0, 0, 0), 2);
+        Check.due("of the sender", last.gap(1, 0, 0), -1);
     }
 
     private static void gapBehindGap() {

@@ -479,8 +479,8 @@ final class TextEdges {
     /** Wrong in the last place that can be, behind lines of all kinds. */
     private static void wrongTextLeavesNothing() {
         String[] texts = {"node;node down;link 4 5 delay 1 loss 1;link 0 2 delay 1 loss 0;request 1 1;repair 1 1;"
-            + "scope 1;session 1;rate 1;source 3;bad", "request 9 33", "repair 31 99", "node down x", "link 0 2 delay 3 loss 101",
-            "link 0 2 delay 3", "source 1;source 4"};
+            + "scope 1;session 1;rate 1;source 3;bad", "request 9 33", "repair 31 99", "node down x",
+            "link 0 2 delay 3 loss 101", "link 0 2 delay 3", "source 1;source 4"};
         for (String text : texts) {
             RepairTalk talk = Twins.busy();
             RepairTalk twin = Twins.busy();
