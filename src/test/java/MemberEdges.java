@@ -26,6 +26,8 @@ final class MemberEdges {
         Check.edge(6, "AVE (16 at first)", () -> Check.due("AVE", Check.group("node").node(0, 6), 16));
         Check.edge(6, "REQUESTS, REPAIRS (that it sent), DUPLICATES, SUPPRESSED (0 at first, all)",
             MemberEdges::countsAtFirst);
+        Check.edge(6, "numbered from 0 on): UP (at first) or DOWN; HAS: PACKETS 0 to 11, as bits (none at first)",
+            MemberEdges::laterNodes);
         Check.edge(6, "if there was an ASK: none, and (then alone) AVE is (16 times REQS, less AVE) by 4 more",
             MemberEdges::aveByAskAlone);
         Check.edge(6, "(All quotients are rounded down.)", MemberEdges::aveIsRoundedDown);
@@ -90,6 +92,7 @@ final class MemberEdges {
         Check.edge(9, "3, if it is REACHED, but there were 64", MemberEdges::gapByCrowd);
         Check.edge(9, "none, if it is on its way", MemberEdges::gapOnItsWay);
         Check.edge(9, "By data each other NODE has a GAP", MemberEdges::gapByDataAlone);
+        Check.edge(9, "each other NODE has a GAP of the PACKET by that", MemberEdges::noGapOfLaterNodes);
         Check.edge(9, "it HAS it, the GAP is none", MemberEdges::gapEnds);
         Check.edge(9, "by data that it has not its GAP is 4", MemberEdges::gapOfDown);
         Check.edge(9, "The GAP of a NODE and a PACKET (k 0), that behind it (1), and on; NONE without.",
@@ -241,6 +244,26 @@ final class MemberEdges {
         Check.due("a request", one.node(1, 7), 1);
         one.ticks(1);
         Check.due("a repair", one.node(0, 8), 1);
+    }
+
+    /** Told in the middle of a talk, a NODE is as one of the first text is. */
+    private static void laterNodes() {
+        RepairTalk talk = missed("4 0", "1 0");
+        talk.ticks(20);
+        Check.tell(talk, "node;node down");
+        for (int node = 2; node < 4; node++) {
+            long[] all = new long[11];
+            for (int what = 0; what < all.length; what++) {
+                all[what] = talk.node(node, what);
+            }
+            Check.dueAll("node " + node, all, 3 - node, 0, -1, 0, 4, 0, 16, 0, 0, 0, 0);
+            Check.dueAll("est", new long[] {talk.est(node, 0), talk.est(1, node), talk.est(2, 3)}, 4, 4, 4);
+            for (int packet = 0; packet < 12; packet++) {
+                Check.dueAll("packet " + packet, timers(talk, node, packet), -1, -1, -1, -1, -1, -1, -1, 0);
+                Check.due("WHEN", talk.when(node, packet), -1);
+                Check.due("FROM", talk.giver(node, packet, 0), -1);
+            }
+        }
     }
 
     private static void aveByAskAlone() {
@@ -991,6 +1014,24 @@ final class MemberEdges {
         RepairTalk report = Check.group("node;node;link 0 1 delay 1 loss 100;session 1");
         report.ticks(4);
         Check.due("by reports", report.gap(1, 0, 0), -1);
+    }
+
+    /** A NODE that was not there when the data was sent has none, however full the group gets. */
+    private static void noGapOfLaterNodes() {
+        RepairTalk talk = Check.group("node");
+        for (int nodes = 2; nodes <= 6; nodes++) {
+            talk.send();
+            Check.tell(talk, "node");
+            for (int packet = 0; packet < talk.count(4); packet++) {
+                Check.due("of node " + (nodes - 1), talk.gap(nodes - 1, packet, 0), -1);
+            }
+        }
+        Check.tell(talk, "source 5");
+        talk.send();
+        for (int node = 0; node < 6; node++) {
+            Check.due("of node " + node + " by the last one's data", talk.gap(node, 5, 0), node < 5 ? 2 : -1);
+        }
+        Check.due("ALONE", talk.count(16), 6);
     }
 
     private static void gapEnds() {
