@@ -6,6 +6,7 @@ public final class EdgesTest {
         LinkEdges.all();
         AskEdges.all();
         KeepEdges.all();
+        UnlikeEdges.all();
         RefusedEdges.all();
         Check.dueEdges();
         Check.finish();
